@@ -78,6 +78,11 @@ public final class AskTest {
         Check.due("sum 10000", x.open(0, 10000), -1);
         Check.due("sum -1", x.open(0, -1), -1);
         Check.due("man 2", x.open(2, 0), -1);
+        StringBuilder eight = new StringBuilder("man p;");
+        for (int g = 0; g < 8; g++) {
+            eight.append("glass ").append((char) ('a' + g)).append(" p 1 ").append(g + 1).append(" 1 1;");
+        }
+        Check.due("all eight", Check.told(eight.toString()).open(0, 36), 255);
     }
 
     private static void vigil() {
@@ -105,6 +110,11 @@ public final class AskTest {
         Check.due("the least of several", Check.told("man p;glass a p 1 1 1 4;glass b p 1 1 1 6;sieve 3;sieve 5;sieve 4;").apart(), 2);
         Check.due("coarse as the mesh goes through", Check.told("man p;glass a p 1 1 1 4;glass b p 1 1 1 5;sieve 4;").apart(), 1);
         Check.due("by none", Check.told("man p;glass a p 1 1 1 4;glass b p 1 1 1 6;sieve 3;sieve 6;").apart(), -2);
+        StringBuilder seven = new StringBuilder("man p;");
+        for (int coarse = 1; coarse <= 7; coarse++) {
+            seven.append("glass ").append((char) ('a' + coarse)).append(" p 1 1 1 ").append(coarse).append(";");
+        }
+        Check.due("all six", Check.told(seven + "sieve 1;sieve 2;sieve 3;sieve 4;sieve 5;sieve 6;").apart(), 63);
     }
 
     private static void carry() {
@@ -123,6 +133,14 @@ public final class AskTest {
         SandHours y = Check.told("man p;glass a p 1 1 1 1;glass b p 1 1 1 1;glass c p 1 1 1 1;glass d p 1 1 1 1;"
                 + "pay a b 0 1;pay a c 0 1;pay b c 0 1;pay b d 0 1;pay c d 0 1;");
         Check.due("two ways", y.carry(0, 3), 2);
+        // the shortest way 0 1 2 7 stands in the way of both others
+        StringBuilder eight = new StringBuilder("man p;");
+        for (char name = 'a'; name <= 'h'; name++) {
+            eight.append("glass ").append(name).append(" p 1 1 1 1;");
+        }
+        SandHours z = Check.told(eight + "pay a b 0 1;pay b c 0 1;pay c h 0 1;pay b e 0 1;pay e f 0 1;pay f h 0 1;pay a d 0 1;"
+                + "pay d g 0 1;pay g c 0 1;");
+        Check.due("two ways, neither the shortest", z.carry(0, 7), 2);
     }
 
     private static void comes() {
@@ -204,6 +222,9 @@ public final class AskTest {
         SandHours wet = Check.told("man p;glass a p 90 0 5 1;glass b p 90 0 1 1;damp 100;");
         wet.go(1);
         Check.due("half of 5 is 2", wet.let(0, 6, 1), 3);
+        Check.due("one minute is enough", wet.let(0, 2, 1), 1);
+        Check.due("a sum of 1", x.let(1, 1, 0), -2);
+        Check.due("a sum of 1", Check.told("man p;glass a p 9 0 1 1;").let(0, 1, 1), 1);
         Check.due("half of 1 is none", wet.let(0, 5, 0), -2);
         Check.due("laws of flow don't count", Check.told("man p;glass a p 9 0 3 1;law flow 1;").let(0, 6, 1), 2);
     }

@@ -149,6 +149,7 @@ public final class MinuteTest {
         Check.due("not is looser than <", value("not 5 < 3"), 1);
         Check.due("not is tighter than and", value("not 0 and 0"), 0);
         Check.due("and is tighter than or", value("1 or 0 and 0"), 1);
+        Check.due("> is tighter than or", value("1 or 5 > 9"), 1);
         Check.due("< is looser than +", value("1 + 1 < 3"), 1);
         Check.due("10 to the 12", value("1000 * 1000 * 1000 * 1000"), 1000000000000L);
         Check.due("above it", value("1000 * 1000 * 1000 * 1000 + 1"), Long.MIN_VALUE);
@@ -327,17 +328,38 @@ public final class MinuteTest {
         Check.due("still", x.count(13), 1);
         x.go(1);
         Check.due("a minute went by", x.undo(), -1);
-        for (int k = 0; k < 25; k++) {
-            x.pour(0, 1, 1);
-            x.flip(0);
+        theLatestTwenty();
+    }
+
+    private static void theLatestTwenty() {
+        SandHours x = Check.told("man p;glass a p 90 91 2 1;glass b p 80 81 2 1;glass c p 70 71 2 1;damp 100;");
+        x.go(1);
+        int[][] after = new int[31][];
+        after[0] = all(x);
+        for (int k = 1; k <= 30; k++) {
+            if (k % 10 == 4) {
+                Check.due("dry", x.dry(k / 10), true);
+            } else if (k % 3 == 0) {
+                x.flip(k % 7 % 3);
+            } else {
+                Check.due("pour", x.pour(k % 3, (k + 1 + k % 2) % 3, 1 + k % 5) >= 0, true);
+            }
+            after[k] = all(x);
         }
-        int paid = x.glass(0, 7);
         Check.due("20 at most", x.count(13), 20);
-        for (int k = 19; k >= 0; k--) {
-            Check.due("undo", x.undo(), k);
+        for (int k = 29; k >= 10; k--) {
+            Check.due("undo", x.undo(), k - 10);
+            Check.due("as it was behind " + k, java.util.Arrays.equals(all(x), after[k]), true);
         }
         Check.due("no more", x.undo(), -1);
-        Check.due("the latest ten pourings", x.glass(0, 7) <= paid, true);
+    }
+
+    private static int[] all(SandHours x) {
+        int[] all = new int[3 * 8];
+        for (int k = 0; k < all.length; k++) {
+            all[k] = x.glass(k / 8, k % 8);
+        }
+        return all;
     }
 
     private static void images() {

@@ -13,6 +13,7 @@ public final class TextTest {
         notTold();
         laws();
         firstAlongTheText();
+        oneBehindAnother();
         names();
         Check.end();
     }
@@ -54,7 +55,7 @@ public final class TextTest {
         Check.due("go", x.go(3), 3);
         Check.due("flip", x.flip(0), 23);
         x.see(1, 0, 5, true);
-        x.known(1);
+        x.known(0);
         x.keep();
         Check.due("text with a fault", Check.tell(x, "man a;man a;"), -1);
         Check.due("all stays: minute", x.count(5), 3);
@@ -183,6 +184,8 @@ public final class TextTest {
         Check.faulty("law flow 1 < not 2;", 1, 13);
         Check.faulty("law flow 1 < 2 < 3;", 1, 15);
         Check.faulty("law flow 1 < 2 + 3 = 4;", 1, 19);
+        Check.faulty("law flow 1 > 2 > 3;", 1, 15);
+        Check.faulty("law flow not 1 > 2 <> 3;", 1, 19);
         Check.faulty("law flow 1 < = 2;", 1, 13);
         Check.faulty("law flow 1 => 2;", 1, 12);
         Check.faulty("law flow 1 <>= 2;", 1, 13);
@@ -214,6 +217,39 @@ public final class TextTest {
         Check.faulty("man a;glass g a 1 1 1;", 1, 21);
         Check.faulty("damp 1;damp 101;", 3, 7);
         Check.faulty("law flow 10000 10000;", 2, 9);
+    }
+
+    /** Nothing of one text is left in the next one. */
+    private static void oneBehindAnother() {
+        SandHours x = new SandHours();
+        String knots = "1" + "+1".repeat(19);
+        for (int k = 1; k <= 6; k++) {
+            Check.due("text", Check.tell(x, "man a;glass g a 9 9 1 1;law flow " + knots + ";law tax " + k + ";"), 4);
+            Check.due("knots", x.count(4), 40);
+            Check.due("flow", x.law(0, 0), 20);
+            Check.due("tax", x.law(1, 0), k);
+        }
+        for (int k = 0; k < 12; k++) {
+            Check.due("a fault with signs that wait", Check.tell(x, "law flow 1 + (2 * (((((((3 -"), -1);
+        }
+        Check.due("text", Check.tell(x, "man a;glass g a 9 9 1 1;law flow 1+(2*(9-3));"), 3);
+        Check.due("knots", x.count(4), 7);
+        Check.due("flow", x.law(0, 0), 13);
+        Check.due("no tax", x.law(1, 0), Long.MIN_VALUE);
+        Check.due("text", Check.tell(x, TWO + "turn g 0;pay g h 0 1;sieve 3;damp 100;seed 7;law wind 9;"), 9);
+        x.go(1);
+        Check.due("text", Check.tell(x, TWO), 3);
+        Check.due("text", Check.tell(x, TWO), 3);
+        Check.due("payments", x.count(2), 0);
+        Check.due("sieves", x.count(3), 0);
+        Check.due("paid", x.count(7), 0);
+        Check.due("go", x.go(1), 1);
+        Check.due("no turn", x.glass(0, 2), 3);
+        Check.due("no damp", x.wets(), 0);
+        Check.due("damp and seed may be told", Check.tell(x, TWO + "damp 1;seed 1;turn 1"), -1);
+        Check.due("a number is no name", x.fault(0), 1);
+        Check.due("a number is no name", x.fault(1), TWO.length() + 19);
+        Check.due("damp and seed may be told again", Check.tell(x, TWO + "damp 0;seed 0;"), 5);
     }
 
     private static void names() {
