@@ -323,11 +323,10 @@ public final class SandHours {
         return now.minute;
     }
 
-    /** What will be in n MINUTES as it goes. */
-    private void lookAhead(int n) {
+    /** From now on the state then is one to try on, as it goes. */
+    private void beginAhead() {
         then.copy(now);
         course.asItGoes(told);
-        course.pass(then, n);
     }
 
     public int ahead(int n, int what, int i) {
@@ -335,7 +334,8 @@ public final class SandHours {
         if (outside(n, 0, MINUTES_MOST) || outside(what, 0, 4) || ofGlass && noGlass(i) || what == 3 && noMan(i)) {
             return NONE;
         }
-        lookAhead(n);
+        beginAhead();
+        course.pass(then, n);
         switch (what) {
             case 0:
                 return then.above[i];
@@ -354,12 +354,12 @@ public final class SandHours {
         if (noGlass(glass)) {
             return NONE;
         }
-        lookAhead(0);
+        beginAhead();
         for (int minutes = 0; minutes < MINUTES_MOST; minutes++) {
             if (then.above[glass] == 0) {
                 return minutes;
             }
-            course.passMinute(then);
+            course.pass(then, 1);
         }
         return NOT_SO;
     }
@@ -375,8 +375,7 @@ public final class SandHours {
         if (noGlass(glass) || outside(n, 1, 30)) {
             return NONE;
         }
-        then.copy(now);
-        course.asItGoes(told);
+        beginAhead();
         return puzzles.fewestTurns(course, then, glass, n);
     }
 
@@ -469,10 +468,10 @@ public final class SandHours {
         if (outside(what, 0, 1)) {
             return NONE;
         }
-        lookAhead(0);
+        beginAhead();
         int before = now.shortBits();
         for (int minutes = 1; minutes <= MINUTES_MOST; minutes++) {
-            course.passMinute(then);
+            course.pass(then, 1);
             int more = then.shortBits() & ~before;
             if (more != 0) {
                 return what == 0 ? minutes : lowestBit(more);
@@ -510,7 +509,8 @@ public final class SandHours {
         if (outside(n, 0, MINUTES_MOST)) {
             return NONE;
         }
-        lookAhead(n);
+        beginAhead();
+        course.pass(then, n);
         return then.richestMan(told);
     }
 
@@ -592,7 +592,7 @@ public final class SandHours {
     /** Whether all KNOWN ones are so, if it goes on from the state then. */
     private boolean allSo() {
         for (int minutes = 1; minutes <= seen.lastMinute && minutes <= 99; minutes++) {
-            course.passMinute(then);
+            course.pass(then, 1);
             if (!seen.agrees(minutes, then)) {
                 return false;
             }
@@ -622,8 +622,7 @@ public final class SandHours {
                 || what != NO_PAYER && i != 0) {
             return NONE;
         }
-        then.copy(now);
-        course.asItGoes(told);
+        beginAhead();
         course.leftOut = what;
         course.unpaying = i;
         course.pass(then, n);
@@ -851,13 +850,16 @@ public final class SandHours {
         }
 
         private static long joined(int kind, long a, long b) {
+            long size = a < 0 ? -a : a;
+            long otherSize = b < 0 ? -b : b;
             switch (kind) {
                 case PLUS:
                     return a + b;
                 case MINUS:
                     return a - b;
                 case TIMES:
-                    return product(a, b);
+                    // two values within the bounds may have a product beyond a long
+                    return size != 0 && otherSize > LARGEST / size ? ERROR : a * b;
                 case OVER:
                     return b == 0 ? ERROR : a / b;
                 case LESS:
@@ -879,16 +881,6 @@ public final class SandHours {
                 default:
                     return ERROR;
             }
-        }
-
-        /** Two values within the bounds may have a product beyond a long. */
-        private static long product(long a, long b) {
-            if (a == 0) {
-                return 0;
-            }
-            long size = a < 0 ? -a : a;
-            long other = b < 0 ? -b : b;
-            return other > LARGEST / size ? ERROR : a * b;
         }
     }
 
@@ -962,16 +954,12 @@ public final class SandHours {
                 }
                 at++;
             }
-            kind = shift < 0 ? BAD : wordKind();
-        }
-
-        private int wordKind() {
-            for (int word = 0; word < WORD_COUNT; word++) {
+            kind = shift < 0 ? BAD : OWN_WORD;
+            for (int word = 0; word < WORD_COUNT && kind == OWN_WORD; word++) {
                 if (words[word] == letters) {
-                    return FIRST_WORD + word;
+                    kind = FIRST_WORD + word;
                 }
             }
-            return OWN_WORD;
         }
 
         private void cutNumber() {
@@ -1047,42 +1035,38 @@ public final class SandHours {
             tokens.start(bytes, n);
             int lines = 0;
             for (int step = 0; step < TAPE_MOST && tokens.kind != END && tokens.fine(); step++) {
-                readLine(told);
+                switch (tokens.kind) {
+                    case MAN:
+                        readMan(told);
+                        break;
+                    case GLASS:
+                        readGlass(told);
+                        break;
+                    case TURN:
+                        readTurn(told);
+                        break;
+                    case PAY:
+                        readPayment(told);
+                        break;
+                    case SIEVE:
+                        readSieve(told);
+                        break;
+                    case DAMP:
+                        readDamp(told);
+                        break;
+                    case SEED:
+                        readSeed(told);
+                        break;
+                    case LAW:
+                        readLaw(told);
+                        break;
+                    default:
+                        tokens.fail(NO_TOKEN);
+                        break;
+                }
                 lines++;
             }
             return tokens.fine() ? lines : NONE;
-        }
-
-        private void readLine(Told told) {
-            switch (tokens.kind) {
-                case MAN:
-                    readMan(told);
-                    break;
-                case GLASS:
-                    readGlass(told);
-                    break;
-                case TURN:
-                    readTurn(told);
-                    break;
-                case PAY:
-                    readPayment(told);
-                    break;
-                case SIEVE:
-                    readSieve(told);
-                    break;
-                case DAMP:
-                    readDamp(told);
-                    break;
-                case SEED:
-                    readSeed(told);
-                    break;
-                case LAW:
-                    readLaw(told);
-                    break;
-                default:
-                    tokens.fail(NO_TOKEN);
-                    break;
-            }
         }
 
         private void readMan(Told told) {
@@ -1498,25 +1482,22 @@ public final class SandHours {
             drawn = true;
         }
 
+        /** So many MINUTES go by. */
         void pass(State s, int n) {
             for (int k = 0; k < n; k++) {
-                passMinute(s);
+                if (leftOut != NO_TURNS) {
+                    turnGlasses(s);
+                }
+                payPayments(s);
+                if (leftOut != NO_DAMP) {
+                    growDamp(s);
+                }
+                runSand(s);
+                if (leftOut != NO_WIND && s.minute % 10 == 9) {
+                    blow(s);
+                }
+                s.minute++;
             }
-        }
-
-        void passMinute(State s) {
-            if (leftOut != NO_TURNS) {
-                turnGlasses(s);
-            }
-            payPayments(s);
-            if (leftOut != NO_DAMP) {
-                growDamp(s);
-            }
-            runSand(s);
-            if (leftOut != NO_WIND && s.minute % 10 == 9) {
-                blow(s);
-            }
-            s.minute++;
         }
 
         private void turnGlasses(State s) {
@@ -1528,31 +1509,26 @@ public final class SandHours {
         }
 
         private void payPayments(State s) {
-            for (int p = 0; p < told.payments.size && p < PAYMENTS_MOST; p++) {
-                if (told.payments.at(p, PAY_MINUTE) == s.minute) {
-                    payOne(s, p);
+            Rows payments = told.payments;
+            for (int p = 0; p < payments.size && p < PAYMENTS_MOST; p++) {
+                if (payments.at(p, PAY_MINUTE) != s.minute) {
+                    continue;
                 }
+                int one = payments.at(p, FROM);
+                int other = payments.at(p, TO);
+                boolean noSuch = one < 0 || one >= GLASSES_MOST || other < 0 || other >= GLASSES_MOST;
+                if (noSuch || leftOut == NO_PAYER && one == unpaying) {
+                    continue;
+                }
+                int grains = Math.min(payments.at(p, PAY_GRAINS), s.below[one]);
+                s.done[p] = grains < payments.at(p, PAY_GRAINS) ? SHORT : ALL_PAID;
+                s.paid[one] += grains;
+                // the law of tax sees what is PAID this time as PAID, and as BELOW still
+                int tax = Math.min(grains, taxOf(s, one));
+                s.below[one] -= grains;
+                s.taxed += tax;
+                s.above[other] = Math.min(GRAINS_MOST, s.above[other] + grains - tax);
             }
-        }
-
-        private void payOne(State s, int payment) {
-            int one = told.payments.at(payment, FROM);
-            int other = told.payments.at(payment, TO);
-            int due = told.payments.at(payment, PAY_GRAINS);
-            boolean noSuch = one < 0 || one >= GLASSES_MOST || other < 0 || other >= GLASSES_MOST;
-            if (noSuch || payment < 0 || payment >= PAYMENTS_MOST || leftOut == NO_PAYER && one == unpaying) {
-                return;
-            }
-            int grains = Math.min(due, s.below[one]);
-            s.done[payment] = grains < due ? SHORT : ALL_PAID;
-            if (grains == 0) {
-                return;
-            }
-            s.paid[one] += grains;
-            int tax = Math.min(grains, taxOf(s, one));
-            s.below[one] -= grains;
-            s.taxed += tax;
-            s.above[other] = Math.min(GRAINS_MOST, s.above[other] + grains - tax);
         }
 
         private int taxOf(State s, int glass) {
@@ -1599,7 +1575,7 @@ public final class SandHours {
 
         /** How many GRAINS would run in this MINUTE, if there were enough. */
         int flowOf(State s, int glass) {
-            int neck = neckOf(glass);
+            int neck = glass == oddGlass ? oddNeck : told.glasses.at(glass, TOLD_NECK);
             int plain = s.wetBit(glass) == 1 ? neck / 2 : neck;
             if (!told.laws.has(FLOW_LAW)) {
                 return plain;
@@ -1618,10 +1594,6 @@ public final class SandHours {
             }
         }
 
-        private int neckOf(int glass) {
-            return glass == oddGlass ? oddNeck : told.glasses.at(glass, TOLD_NECK);
-        }
-
         /** The laws' NAMES are those of a GLASS. */
         void look(State s, int glass) {
             if (glass < 0 || glass >= GLASSES_MOST) {
@@ -1630,7 +1602,7 @@ public final class SandHours {
             int[] names = told.laws.names;
             names[0] = s.above[glass];
             names[BELOW - ABOVE] = s.below[glass];
-            names[NECK - ABOVE] = neckOf(glass);
+            names[NECK - ABOVE] = glass == oddGlass ? oddNeck : told.glasses.at(glass, TOLD_NECK);
             names[COARSE - ABOVE] = told.glasses.at(glass, TOLD_COARSE);
             names[WET - ABOVE] = s.wetBit(glass);
             names[PAID - ABOVE] = s.paid[glass];
