@@ -156,6 +156,7 @@ public final class MinuteTest {
         Check.due("below it", value("0 - 1000 * 1000 * 1000 * 1000"), -1000000000000L);
         Check.due("further below it", value("0 - 1000 * 1000 * 1000 * 1000 - 1"), Long.MIN_VALUE);
         Check.due("far above it", value("1000*1000*1000*1000*(1000*1000*1000*1000)"), Long.MIN_VALUE);
+        Check.due("more than an int", value("4096 * 4096 * 128"), 2147483648L);
         Check.due("so far that a long would be 0", value("(4096*4096*128)*(4096*4096*512)"), Long.MIN_VALUE);
         Check.due("as many signs wait as can", value("((((((((" + "not ".repeat(63) + "5))))))))"), 0);
         Check.due("an error is one for all", value("0 * (9999*9999*9999*9999)"), Long.MIN_VALUE);
