@@ -1712,9 +1712,11 @@ public final class SandHours {
 
         /** Finds which ones are STRUCK, and up to which MINUTE the others look. */
         void weigh() {
-            Arrays.fill(struck, false);
+            for (int k = 0; k < SEEN_MOST; k++) {
+                struck[k] = false;
+            }
             lastMinute = 0;
-            for (int k = knownSize() - 1; k >= 0; k--) {
+            for (int k = Math.min(SEEN_MOST, knownSize()) - 1; k >= 0; k--) {
                 if (struck[k]) {
                     continue;
                 }

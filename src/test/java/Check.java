@@ -2,15 +2,31 @@
 final class Check {
     private static int wrong = 0;
     private static int asked = 0;
+    private static String sentence = "";
+    private static int askedBefore = 0;
 
     private Check() {
+    }
+
+    /** What is asked from now on tests this sentence of the document; nothing asked is a fault of the test. */
+    static void sentence(String words) {
+        endSentence();
+        sentence = words;
+        askedBefore = asked;
+    }
+
+    private static void endSentence() {
+        if (!sentence.isEmpty() && asked == askedBefore) {
+            wrong++;
+            System.out.println("nothing was asked of: " + sentence);
+        }
     }
 
     static void due(String call, long got, long want) {
         asked++;
         if (got != want) {
             wrong++;
-            System.out.println(call + " answered " + got + ", due is " + want);
+            System.out.println((sentence.isEmpty() ? "" : "[" + sentence + "] ") + call + " answered " + got + ", due is " + want);
         }
     }
 
@@ -79,7 +95,64 @@ final class Check {
         }
     }
 
+    /** Nearly all that can be asked without a change, in one text. */
+    static String picture(SandHours x) {
+        StringBuilder p = new StringBuilder("counts");
+        for (int what = 0; what <= 13; what++) {
+            p.append(' ').append(x.count(what));
+        }
+        for (int g = 0; g < x.count(1); g++) {
+            p.append("\nglass ").append(g);
+            for (int what = 0; what <= 7; what++) {
+                p.append(' ').append(x.glass(g, what));
+            }
+            for (int what = 0; what <= 2; what++) {
+                p.append(' ').append(x.law(what, g));
+            }
+            p.append(' ').append(x.ahead(13, 0, g)).append(' ').append(x.ahead(13, 1, g)).append(' ').append(x.necks(g));
+        }
+        for (int m = 0; m < x.count(0); m++) {
+            p.append("\nman ").append(x.man(m, 0)).append(' ').append(x.man(m, 1)).append(' ').append(x.man(m, 2));
+        }
+        for (int k = 0; k < x.count(2); k++) {
+            p.append("\npayment ").append(x.payment(k, 0)).append(x.payment(k, 1)).append(' ').append(x.payment(k, 2))
+                    .append(' ').append(x.payment(k, 3)).append(' ').append(x.payment(k, 4));
+        }
+        return p.append("\nothers ").append(x.apart()).append(' ').append(x.ahead(99, 2, 0)).append(' ')
+                .append(x.ahead(99, 4, 0)).append(' ').append(x.toCome()).append(' ').append(x.wets()).toString();
+    }
+
+    static void same(String what, String got, String want) {
+        due(what, got.equals(want), true);
+        if (!got.equals(want)) {
+            System.out.println(got + "\n-- but it was\n" + want);
+        }
+    }
+
+    /**
+     * Eight glasses a to h of p, NECK 9, COARSE 1. Glass 0 has 99 above and below, glass 1 has 999 above and 99
+     * below, glasses 2 to 4 have none, 5 has 90 below, 6 and 7 have 99 below.
+     */
+    static SandHours brimful(String more) {
+        StringBuilder t = new StringBuilder("man p;");
+        for (char name = 'a'; name <= 'h'; name++) {
+            t.append("glass ").append(name).append(" p 99 99 9 1;");
+        }
+        SandHours x = told(t + more);
+        for (int g = 2; g <= 7; g++) {
+            x.pour(g, 1, 99);
+            x.flip(g);
+        }
+        for (int g = 2; g <= 4; g++) {
+            x.pour(g, 1, 99);
+        }
+        x.pour(5, 1, 9);
+        due("brimful", x.glass(1, 1), 999);
+        return x;
+    }
+
     static void end() {
+        endSentence();
         System.out.println(asked + " answers, " + wrong + " wrong");
         if (wrong != 0 || asked == 0) {
             System.exit(1);
