@@ -225,6 +225,12 @@ public final class AskEdgesTest {
         Check.due("and no more", paying.vigil(0, 2), -2);
         Check.due("by its MINUTE", goneOn("man p;glass a p 9 0 1 1;law flow minute > 3;", 3).vigil(0, 9), 0);
         Check.due("by its MINUTE", goneOn("man p;glass a p 9 0 1 1;law flow minute > 3;", 4).vigil(0, 9), 1);
+        // 40 and 0: half of those above run, 20 20, 10 30, 5 35, 3 37, 2 38, 1 39, then all of 1
+        Check.due("above as it goes", Check.told("man p;glass a p 40 0 1 1;law flow (above + (above = 1)) / 2;").vigil(0, 6), 0);
+        Check.due("above as it goes", Check.told("man p;glass a p 40 0 1 1;law flow (above + (above = 1)) / 2;").vigil(0, 7), 1);
+        // 12 and 0: as many run as are below and 1: 11 1, 9 3, 5 7, none; turned ahead of the fourth 7 5, 1 11
+        Check.due("below as it goes", Check.told("man p;glass a p 12 0 1 1;law flow below + 1;").vigil(0, 3), 0);
+        Check.due("below as it goes", Check.told("man p;glass a p 12 0 1 1;law flow below + 1;").vigil(0, 4), 1);
         Check.sentence("without the bound of 999");
         SandHours x = Check.brimful("law flow 99;");
         x.flip(1);
@@ -920,5 +926,34 @@ public final class AskEdgesTest {
         Check.due("what 5", turned.tried(5, 0, 0), -1);
         Check.due("of a new one", new SandHours().tried(0, 0, 9), 0);
         Check.due("of a new one", new SandHours().tried(2, 0, 9), -1);
+        askedOneBehindAnother();
+    }
+
+    /** What one call leaves out or puts in another place is as it was for the next one. */
+    private static void askedOneBehindAnother() {
+        Check.sentence("TRIED, NECKS: what was tried otherwise is as it was");
+        String text = "man p;glass a p 9 40 2 3;glass b p 0 0 1 1;damp 50;turn a 0;pay a b 1 5;law tax 2;law wind below / 4 + wet;";
+        SandHours fresh = Check.told(text);
+        int above = fresh.ahead(10, 0, 0);
+        int below = fresh.ahead(10, 1, 0);
+        int wealth = fresh.ahead(10, 3, 0);
+        SandHours x = Check.told(text);
+        for (int what = 0; what <= 5; what++) {
+            Check.due("asked " + what, what < 5 ? x.tried(what, 0, 10) >= 0 : x.necks(0) == 0x3ff, true);
+            Check.due("ABOVE behind " + what, x.ahead(10, 0, 0), above);
+            Check.due("tried " + what, what < 5 ? x.tried(what, 0, 10) >= 0 : x.necks(0) == 0x3ff, true);
+            Check.due("empty behind " + what, x.empty(0), Check.told(text).empty(0));
+            Check.due("tried " + what, what < 5 ? x.tried(what, 0, 10) >= 0 : x.necks(0) == 0x3ff, true);
+            Check.due("vigil behind " + what, x.vigil(0, 30), Check.told(text).vigil(0, 30));
+            Check.due("tried " + what, what < 5 ? x.tried(what, 0, 10) >= 0 : x.necks(0) == 0x3ff, true);
+            Check.due("BELOW behind " + what, x.ahead(10, 1, 0), below);
+            Check.due("WEALTH behind " + what, x.ahead(10, 3, 0), wealth);
+            SandHours y = Check.told(text);
+            SandHours z = Check.told(text);
+            Check.due("tried " + what, what < 5 ? y.tried(what, 0, 10) >= 0 : y.necks(0) == 0x3ff, true);
+            y.go(12);
+            z.go(12);
+            Check.same("gone on behind " + what, Check.picture(y), Check.picture(z));
+        }
     }
 }

@@ -334,6 +334,14 @@ public final class MinuteEdgesTest {
         Check.sentence("a value above 10 to the 12 or below 0 by more than that");
         Check.due("10 to the 12", value(most), 1000000000000L);
         Check.due("1 more", value(most + "+1"), error);
+        Check.due("-3 times 2", value("(0 - 3) * 2"), -6);
+        Check.due("2 times -3", value("2 * (0 - 3)"), -6);
+        Check.due("-3 times -4", value("(0 - 3) * (0 - 4)"), 12);
+        Check.due("0 times -4", value("0 * (0 - 4)"), 0);
+        Check.due("-4 times 0", value("(0 - 4) * 0"), 0);
+        Check.due("0 times it", value("0 * (" + most + ")"), 0);
+        Check.due("1 times it", value("1 * (" + most + ")"), 1000000000000L);
+        Check.due("-1 times it", value("(0 - 1) * (" + most + ")"), -1000000000000L);
         Check.due("1 less", value(most + "-1"), 999999999999L);
         Check.due("below 0 by it", value("0-" + most), -1000000000000L);
         Check.due("below 0 by 1 more", value("0-" + most + "-1"), error);
@@ -346,6 +354,9 @@ public final class MinuteEdgesTest {
         Check.due("times itself below 0", value("(0-" + most + ")*(" + most + ")"), error);
         Check.due("both below 0", value("(0-" + most + ")*(0-" + most + ")"), error);
         Check.due("2 to the 64", value("(4096*4096*128)*(4096*4096*512)"), error);
+        Check.due("below 0 by 2 to the 64", value("(4096*4096*128)*(0-4096*4096*512)"), error);
+        Check.due("below 0 by 2 to the 64", value("(0-4096*4096*128)*(4096*4096*512)"), error);
+        Check.due("2 to the 64 of two below 0", value("(0-4096*4096*128)*(0-4096*4096*512)"), error);
         Check.due("an ERROR inside, though it would be less", value("(" + most + "+1)/2"), error);
         Check.due("10 to the 12 and nothing", value("9999*9999*9999+9999*9999*2+9999*9999+9999*3+1"), 1000000000000L);
         Check.due("and 1", value("9999*9999*9999+9999*9999*2+9999*9999+9999*3+2"), error);
@@ -538,6 +549,20 @@ public final class MinuteEdgesTest {
         Check.due("999 at once", full.pour(1, 2, 999), 0);
         Check.due("all came", full.glass(2, 1), 999);
         Check.due("all are PAID", full.glass(1, 7), 999);
+        SandHours three = Check.told("man p;glass a p 4 9 2 1;glass b p 7 5 2 1;glass c p 1 3 2 1;");
+        for (int one = 0; one < 3; one++) {
+            for (int other = 0; other < 3; other++) {
+                if (one != other) {
+                    int below = three.glass(one, 2);
+                    int above = three.glass(other, 1);
+                    int paid = three.glass(one, 7);
+                    Check.due("how many are left BELOW", three.pour(one, other, 1), below - 1);
+                    Check.due("BELOW", three.glass(one, 2), below - 1);
+                    Check.due("ABOVE", three.glass(other, 1), above + 1);
+                    Check.due("PAID", three.glass(one, 7), paid + 1);
+                }
+            }
+        }
         Check.sentence("-2: there are not so many");
         Check.due("one more than there are", x.pour(0, 1, 9), -2);
         Check.due("just all", x.pour(0, 1, 8), 0);
@@ -699,10 +724,8 @@ public final class MinuteEdgesTest {
         Check.due("the IMAGE has it turned: it was WET, 1 and 1 ran", x.glass(0, 1), 11);
         Check.due("nothing to undo", x.undo(), -1);
         x.go(20);
-        int wet = x.wets();
         Check.due("back once more", x.back(), 2);
-        x.go(20);
-        Check.due("its numbers, too", x.wets(), wet);
+        itsNumbers();
         x.see(1, 0, 5, true);
         Check.due("back", x.back(), 2);
         Check.due("what was SEEN isn't in it", x.count(11), 1);
@@ -719,6 +742,29 @@ public final class MinuteEdgesTest {
         y.keep();
         Check.due("a text with a FAULT", Check.tell(y, "man"), -1);
         Check.due("still there", y.back(), 0);
+    }
+
+    private static void itsNumbers() {
+        StringBuilder t = new StringBuilder("man p;");
+        for (char name = 'a'; name <= 'h'; name++) {
+            t.append("glass ").append(name).append(" p 1 1 1 1;");
+        }
+        SandHours x = Check.told(t + "damp 7;seed 3;");
+        x.go(2);
+        x.keep();
+        int[] wet = new int[9];
+        for (int minute = 0; minute < 9; minute++) {
+            x.go(1);
+            wet[minute] = x.wets();
+        }
+        for (int times = 0; times < 2; times++) {
+            x.back();
+            for (int minute = 0; minute < 9; minute++) {
+                x.go(1);
+                Check.due("its numbers, too: minute " + minute, x.wets(), wet[minute]);
+            }
+        }
+        Check.due("not all are WET, some are", wet[8] != 255 && wet[8] != wet[0], true);
     }
 
     private static void counts() {

@@ -637,8 +637,42 @@ public final class TextEdgesTest {
         y.go(4);
         Check.due("numbers begin with the seed", x.wets(), y.wets());
         Check.due("without LINES", Check.tell(x, ""), 0);
+        oldLinesAreGone();
         for (int what = 0; what <= 13; what++) {
             Check.due("count(" + what + ")", x.count(what), 0);
+        }
+    }
+
+    private static void oldLinesAreGone() {
+        String much = "man a;man b;glass g a 9 5 1 4;glass h a 1 6 7 8;damp 70;seed 12345;turn g 0;turn h 0;pay g h 0 4;sieve 5;"
+                + "law flow 0;law tax 3;law wind 9;";
+        String little = "man a;glass g a 9 5 1 4;glass h a 1 6 7 8;";
+        SandHours x = Check.told(much);
+        // what a text is read into may have been used by one of the two ahead of it
+        for (int k = 0; k < 3; k++) {
+            Check.due("little", Check.tell(x, little), 3);
+            Check.due("one man", x.count(0), 1);
+            Check.due("no PAYMENTS", x.count(2), 0);
+            Check.due("no SIEVES", x.apart(), -2);
+            Check.due("no KNOTS", x.count(4), 0);
+            for (int what = 0; what <= 2; what++) {
+                Check.due("no law " + what, x.law(what, 0), Long.MIN_VALUE);
+            }
+            x.go(1);
+            Check.due("no TURNS, no law of flow", x.glass(0, 2), 6);
+            x.go(9);
+            Check.due("no law of wind", x.glass(0, 2), 14);
+            Check.due("no TURNS, no PAYMENTS, no law of wind", x.glass(1, 2), 7);
+            Check.due("no damp", x.wets(), 0);
+        }
+        Check.tell(x, much);
+        for (int k = 0; k < 3; k++) {
+            Check.due("damp alone", Check.tell(x, glasses(8) + "damp 40;"), 10);
+            x.go(1);
+            Check.due("no seed", x.wets(), drawn(0, 40));
+        }
+        for (int k = 0; k < 3; k++) {
+            Check.due("it may be told again", Check.tell(x, much), 13);
         }
     }
 
