@@ -296,6 +296,8 @@ public final class AskEdgesTest {
         Check.sentence("CARRY from a GLASS to another one: the most GRAINS that told PAYMENTS can bring there over other GLASSES, too");
         Check.due("none told", Check.told(all).carry(0, 1), 0);
         Check.due("one", Check.told(all + pays("ab5")).carry(0, 1), 5);
+        Check.due("one of one GRAIN", Check.told(all + pays("ab1")).carry(0, 1), 1);
+        Check.due("ten of one GRAIN", Check.told(all + pays("ab1 ab1 ab1 ab1 ab1 ab1 ab1 ab1 ab1 ab1")).carry(0, 1), 10);
         Check.due("not back", Check.told(all + pays("ab5")).carry(1, 0), 0);
         Check.due("ten at most", Check.told(all + pays("ab99 ab99 ab99 ab99 ab99 ab99 ab99 ab99 ab99 ab99")).carry(0, 1), 990);
         Check.due("over all others", Check.told(all + pays("ab9 bc8 cd7 de6 ef9 fg8 gh7")).carry(0, 7), 6);

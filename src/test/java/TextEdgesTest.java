@@ -74,7 +74,12 @@ public final class TextEdgesTest {
         Check.faulty("law 1;", 1, 4);
         Check.sentence("LAW: flow | tax | wind.");
         Check.due("all three", lines("law flow 1;law tax 1;law wind 1;"), 3);
-        Check.faulty("law above 1;", 1, 4);
+        for (String word : LANGUAGE) {
+            if (!word.equals("flow") && !word.equals("tax") && !word.equals("wind")) {
+                Check.faulty("law " + word + " 1;", 1, 4);
+            }
+        }
+        Check.faulty("law law flow 1;", 1, 4);
         Check.faulty("law rain 1;", 1, 4);
     }
 
@@ -417,6 +422,25 @@ public final class TextEdgesTest {
         Check.due("the tape goes on, the text doesn't", x.text(9), -1);
         Check.due("fault", x.fault(0), 1);
         Check.due("its place is the length of the text", x.fault(1), 9);
+        // whatever stands behind the n bytes does not belong to a TOKEN at their end
+        String[] cut = {"damp 1|00;", "damp |1;", "dam|p 1;", "man a|b;", "man |ab;", "man a;law flow 1<|=2;", "man a;law flow 1>|=2;",
+            "man a;law flow 1<|>2;", "man a;law flow 1|2;", "man a;law flow |(1);", "man a |  ;", "man a|;"};
+        for (String text : cut) {
+            int n = text.indexOf('|');
+            SandHours y = new SandHours();
+            Check.feed(y, text.replace("|", ""));
+            Check.due("text of " + text, y.text(n), -1);
+            Check.due("fault of " + text, y.fault(0), 1);
+            Check.due("place of " + text, y.fault(1), text.startsWith("dam|") ? 0 : n);
+        }
+        for (String end : new String[] {"1", "99999", "abc", "<", ">", "<=", "<>", "(", " ", "\n"}) {
+            String filled = "law flow 1" + " ".repeat(690 - end.length()) + end;
+            SandHours y = new SandHours();
+            Check.due("feed", Check.feed(y, filled), 700);
+            Check.due("text up to the TAPE's end with " + end, y.text(700), -1);
+            boolean sign = end.startsWith("<") || end.startsWith(">") || end.isBlank();
+            Check.due("place with " + end, y.fault(1), sign ? 700 : 700 - end.length());
+        }
         String whole = "man a;" + " ".repeat(691) + "man";
         Check.faulty(whole, 1, 700);
     }
